@@ -791,12 +791,14 @@ public final class CarolDoors {
         }
 
         int of(int door, int fact) {
-            return within(door, 0, DOORS - 1) && within(fact, 0, FACTS - 1) ? doors[door * FACTS + fact] : 0;
+            int at = door * FACTS + fact;
+            return at >= 0 && at < doors.length ? doors[at] : 0;
         }
 
         void setDoor(int door, int fact, int value) {
-            if (within(door, 0, DOORS - 1) && within(fact, 0, FACTS - 1)) {
-                doors[door * FACTS + fact] = value;
+            int at = door * FACTS + fact;
+            if (at >= 0 && at < doors.length) {
+                doors[at] = value;
             }
         }
 
@@ -816,8 +818,8 @@ public final class CarolDoors {
         }
 
         int ofLine(int line, int fact) {
-            return within(line, 0, LINES - 1) && within(fact, 0, LINE_FACTS - 1)
-                    ? lines[line * LINE_FACTS + fact] : 0;
+            int at = line * LINE_FACTS + fact;
+            return at >= 0 && at < lines.length ? lines[at] : 0;
         }
 
         void setLine(int line, int door, int verses, int ring) {
@@ -939,13 +941,14 @@ public final class CarolDoors {
         }
 
         int of(int singer, int fact) {
-            return within(singer, 0, SINGERS - 1) && within(fact, 0, FACTS_OF_ONE - 1)
-                    ? facts[singer * FACTS_OF_ONE + fact] : 0;
+            int at = singer * FACTS_OF_ONE + fact;
+            return at >= 0 && at < facts.length ? facts[at] : 0;
         }
 
         void set(int singer, int fact, int value) {
-            if (within(singer, 0, SINGERS - 1) && within(fact, 0, FACTS_OF_ONE - 1)) {
-                facts[singer * FACTS_OF_ONE + fact] = value;
+            int at = singer * FACTS_OF_ONE + fact;
+            if (at >= 0 && at < facts.length) {
+                facts[at] = value;
             }
         }
 
@@ -1415,9 +1418,9 @@ public final class CarolDoors {
         private int boxOf(Round round, int givers) {
             int box = 0;
             int left = givers;
-            for (int i = 0; i < DOORS && left != 0; i++) {
-                box += round.of(Integer.numberOfTrailingZeros(left), PENCE);
-                left &= left - 1;
+            for (int door = 0; door < DOORS && left != 0; door++) {
+                box += (left & 1) * round.of(door, PENCE);
+                left >>= 1;
             }
             return box;
         }
@@ -1512,7 +1515,7 @@ public final class CarolDoors {
             }
         }
 
-        /** That somebody is in, it looks as seen, and v verses are in vain: times 16 times 16, and 16 a verse. */
+        /** That somebody is in, it looks as seen and v verses are in vain: times 16 by 16, and by 16 a verse. */
         long inAndVain(int door, int seen, int v) {
             return round.of(door, IN) * asSeen(round.of(door, LIT_IN), seen) * power(16 - round.of(door, HEARS), v);
         }
