@@ -262,6 +262,11 @@ public final class PromisesTest {
         best(0, 0, 1, -1, 0);
         x.until(480);
         best(0, 10, 1, 10, 8);
+        x.change(0, 4, 0);
+        x.change(0, 5, 0);
+        best(0, 0, 1, -1, 0);
+        x.undo();
+        best(0, 25, 4, 1, 4);
         // who brings nothing is left out; of two that bring the same the later one is taken
         x = Calls.of("door 0 0 0;door 0 9 0;door 0 9 0;in 1 16;hears 1 16;in 2 16;hears 2 16;rings 1 0;"
                 + "rings 2 0;verse 6;until 6;");
