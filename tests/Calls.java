@@ -1,6 +1,8 @@
 /** What all tests use: feeding texts, and counting answers that are not the ones that are due. */
 final class Calls {
     static int wrong = 0;
+    /** What the answers that come are about, to be printed ahead of a wrong one. */
+    static String about = "";
 
     private Calls() {
     }
@@ -48,7 +50,7 @@ final class Calls {
     static void due(String what, long got, long want) {
         if (got != want) {
             wrong++;
-            System.out.println(what + " answered " + got + ", due is " + want);
+            System.out.println(about + what + " answered " + got + ", due is " + want);
         }
     }
 
@@ -59,7 +61,31 @@ final class Calls {
     static void fraction(String what, long above, long below, long wantAbove, long wantBelow) {
         if (above != wantAbove || below != wantBelow) {
             wrong++;
-            System.out.println(what + " answered " + above + "/" + below + ", due is " + wantAbove + "/" + wantBelow);
+            System.out.println(about + what + " answered " + above + "/" + below + ", due is " + wantAbove + "/" + wantBelow);
+        }
+    }
+
+    /** An argument from least to most is answered; one less, one more and the ends of all numbers are refused. */
+    static void bounds(String what, int least, int most, java.util.function.IntConsumer call) {
+        int[] within = {least, most};
+        int[] without = {least - 1, most + 1, Integer.MIN_VALUE, Integer.MAX_VALUE};
+        for (int v : within) {
+            refused(what + " " + v, '-', () -> call.accept(v));
+        }
+        for (int v : without) {
+            refused(what + " " + v, 'A', () -> call.accept(v));
+        }
+    }
+
+    /** Likewise of the numbers of doors, singers or lines, of which there are so many. */
+    static void numbers(String what, int many, java.util.function.IntConsumer call) {
+        int[] without = {-1, many, Integer.MIN_VALUE, Integer.MAX_VALUE};
+        for (int v = 0; v < many; v++) {
+            int number = v;
+            refused(what + " " + v, '-', () -> call.accept(number));
+        }
+        for (int v : without) {
+            refused(what + " " + v, 'N', () -> call.accept(v));
         }
     }
 
@@ -79,7 +105,7 @@ final class Calls {
         }
         if (got != want) {
             wrong++;
-            System.out.println(what + " was refused by " + got + ", due is " + want);
+            System.out.println(about + what + " was refused by " + got + ", due is " + want);
         }
     }
 
