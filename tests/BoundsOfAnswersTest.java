@@ -139,6 +139,10 @@ public final class BoundsOfAnswersTest {
         x = Calls.of("door 0 1 1;in 0 1;hears 0 1;rings 0 1;");
         long all = 1L << 28;
         mean("the least odds", 0, 5, 2, 0, (1L << 24) - 15L * 15 * 15 * 15 * 15 * 15, all);
+        x = Calls.of("door 0 1 1;in 0 1;hears 0 15;rings 0 1;");
+        for (int what = 0; what < 3; what++) {
+            mean("five good odds and the least", 0, 5, 2, what, (1L << 24) - 15, all);
+        }
         x = Calls.of("door 0 240 99;in 0 15;hears 0 15;rings 0 15;");
         Calls.law(x, 0, "999");
         mean("the greatest odds", 0, 5, 1, 1, 999L * 15 * ((1L << 24) - 1), all);
@@ -163,6 +167,9 @@ public final class BoundsOfAnswersTest {
         Calls.fraction("they never come to them", x.planned(3, 0), x.planned(3, 1), 61, 2);
         x.sing(1, 0, 0);
         Calls.due("pies at all, by no step too", x.longest(), 44);
+        x.change(0, 8, 20);
+        Calls.plan(x, "1 0 first;");
+        Calls.fraction("no drive to another door", x.planned(3, 0), x.planned(3, 1), 9, 1);
         Calls.plan(x, "");
         for (int what = 0; what < 4; what++) {
             Calls.fraction("planned nothing", x.planned(what, 0), x.planned(what, 1), 0, 1);
@@ -240,6 +247,9 @@ public final class BoundsOfAnswersTest {
             x.until(start[1] + 1);
             Calls.fraction("but one from " + start[0], x.best(0, 0), x.best(0, 1), 9, 1);
         }
+        x = Calls.of("door 60 9 0;door 20 9 0;door 40 9 0;in 0 16;in 1 16;in 2 16;rings 0 16;rings 1 16;rings 2 16;"
+                + "start 50;until 480;");
+        found("down to the least and up", 0, 27, 1, 10 + 40 + 3, 1, 1, 1);
         Says.says("\"place\" is 0 in it for all");
         x = Calls.of(ways);
         Calls.law(x, 0, "5-place");
@@ -272,6 +282,10 @@ public final class BoundsOfAnswersTest {
         x = Calls.of("door 0 2 0;door 0 2 0;door 0 4 0;in 0 16;in 1 16;in 2 16;rings 0 16;rings 1 16;rings 2 16;"
                 + "pies 2 1;until 2;");
         found("of one worth the first doors are left out", 0, 4, 1, 2, -1, -1, 1);
+        x = Calls.of("door 0 1 0;door 0 2 0;door 0 4 0;in 0 16;in 1 16;in 2 16;rings 0 16;rings 1 16;rings 2 16;until 2;");
+        found("the two that give most", 0, 6, 1, 2, -1, 1, 1);
+        x = Calls.of("door 0 4 0;door 0 1 0;door 0 2 0;in 0 16;in 1 16;in 2 16;rings 0 16;rings 1 16;rings 2 16;until 2;");
+        found("the two that give most", 0, 6, 1, 2, 1, -1, 1);
     }
 
     private static void bestBounds() {
@@ -299,6 +313,34 @@ public final class BoundsOfAnswersTest {
         Calls.bounds("bestAt's w", 0, 9, v -> x.bestAt(v, 0));
         Calls.numbers("bestAt's door", 5, v -> x.bestAt(0, v));
         Calls.refused("door ahead of w", 'N', () -> x.bestAt(10, 5));
+        x = Calls.of("door 0 9 0;in 0 16;rings 0 16;");
+        Calls.due("bestAt ahead of all others", x.bestAt(0, 0), 1);
+        x.change(0, 5, 0);
+        Calls.due("bestAt behind a change", x.bestAt(0, 0), 50);
+        x = Calls.of("door 9 9 0;in 0 16;rings 0 16;");
+        Calls.due("bestLong ahead of all others", x.bestLong(0), 10);
+        x.until(9);
+        Calls.due("bestLong behind a change", x.bestLong(0), 0);
+        x = Calls.of("door 0 240 0;in 0 16;hears 0 8;rings 0 8;verse 1;until 480;");
+        found("many ways", 0, 945, 4, 6, 51);
+        x.change(0, 1, 16);
+        x.change(0, 4, 16);
+        found("few ways behind many", 0, 16, 1, 1, 10);
+        x.change(0, 5, 0);
+        x.change(0, 4, 0);
+        found("no way behind few", 0, 0, 1, 0, -1);
+        Says.says("by N and ring; DOORS as they lie");
+        x = Calls.of("door 0 64 0;in 0 16;hears 0 8;rings 0 0;until 480;");
+        found("five verses at most", 0, 62, 1, 10, 50);
+        x = Calls.of("door 0 16 0;in 0 16;hears 0 16;rings 0 8;verse 1;until 1;");
+        found("a verse is as long as a ring", 0, 16, 1, 1, 10);
+        x = Calls.of("door 0 16 0;in 0 16;hears 0 8;rings 0 16;verse 1;until 1;");
+        found("a ring is as long as a verse", 0, 16, 1, 1, 1);
+        x = Calls.of("door 0 16 0;in 0 16;hears 0 0;rings 0 16;verse 1;until 2;");
+        Calls.law(x, 0, "1+verses");
+        found("last is as long as first", 0, 2, 1, 2, 12);
+        Calls.law(x, 0, "2-verses");
+        found("first alone", 0, 2, 1, 1, 1);
         Says.says(18, "10 times N, and the ring; NONE: left out");
         x = Calls.of("door 0 9 0;door 0 0 0;in 0 8;hears 0 8;rings 0 8;in 1 0;verse 9;until 480;");
         found("all steps", 0, 9 * 63, 128, 46, 51, -1);
@@ -332,6 +374,16 @@ public final class BoundsOfAnswersTest {
         home(1, 1, 3, 5);
         home(0, 2, 1, 13);
         home(2, 10, 1, 1025);
+        CarolDoors other = x;
+        x = Calls.of("door 0 9 9;in 0 1;hears 0 15;light 0 1 1;");
+        home(1, 3, 1, 1 + 15 * 4096);
+        home(1, 10, 1, 1 + 15 * (1L << 40));
+        x.change(0, 7, 0);
+        home(1, 0, 1, 1);
+        home(1, 10, 1, 1);
+        x.change(0, 7, 1);
+        another(1, 10, 15, (1 + 15 * (1L << 40)) * 16);
+        x = other;
         Says.says("ANOTHER: how likely it is then that they come by the next verse");
         another(2, 0, 1, 4);
         another(2, 1, 1, 6);
@@ -450,6 +502,17 @@ public final class BoundsOfAnswersTest {
         Calls.due("none: what comes behind is in vain", x.ring(0, 1), 0);
         Calls.law(x, 0, "place");
         Calls.due("place 0: no pence by any", x.ring(0, 1), 0);
+        x.change(0, 5, 0);
+        for (String law : new String[] {"1-place", "1+place"}) {
+            Calls.law(x, 0, law);
+            Calls.due("a ring adds nothing", x.ring(0, 1), 0);
+        }
+        x.change(0, 4, 0);
+        x.change(0, 5, 16);
+        for (String law : new String[] {"1-place", "1+place"}) {
+            Calls.law(x, 0, law);
+            Calls.due("the first ring is the sooner", x.ring(0, 1), 1);
+        }
         x.change(0, 3, 0);
         Calls.due("nobody in", x.ring(0, 5), 0);
         x = Calls.of("door 0 0 9;in 0 16;hears 0 0;rings 0 16;verse 9;door 0 0 0;");
@@ -547,6 +610,13 @@ public final class BoundsOfAnswersTest {
         Calls.due("all eight", x.lasts(8, 0), 3);
         Calls.due("seven", x.lasts(7, 0), 3);
         Calls.due("five of eight", x.lasts(5, 0), 4);
+        x = Calls.of("singer 1 0;singer 9 1;singer 9 1;");
+        Calls.due("one verse", x.lasts(0, 0), 1);
+        Calls.due("one verse", x.lasts(3, 0), 1);
+        x = Calls.of("singer 9 0;singer 1 1;singer 9 0;");
+        Calls.due("one verse", x.lasts(0, 0), 1);
+        x = Calls.of("singer 9 0;singer 9 0;singer 1 1;");
+        Calls.due("one verse", x.lasts(0, 0), 1);
         Says.says("nobody sings more than V (99 at most; also 99, if nobody need sing)");
         x = Calls.of("singer 98 0;");
         Calls.due("98", x.lasts(1, 0), 98);
@@ -599,6 +669,10 @@ public final class BoundsOfAnswersTest {
             Calls.due("there " + b[0], x.there(b[0]), b[1]);
         }
         Calls.bounds("there's minute", 0, 480, v -> x.there(v));
+        x = Calls.of("singer 1 0;singer 1 0;home 1 5;");
+        Calls.due("the first is there", x.there(5), 1);
+        Calls.due("both are there", x.there(4), 3);
+        Calls.due("of no singers", new CarolDoors().there(0), 0);
         Says.says(29, "The MINUTE from which on a part that one of all SINGERS has is missing (the first); NONE: never.");
         Calls.due("never", x.flat(), -1);
         x = Calls.of("singer 1 0;singer 1 0;singer 1 3;home 0 7;home 1 90;");
@@ -648,6 +722,20 @@ public final class BoundsOfAnswersTest {
         Calls.due("one brings 3, two bring nothing: the least bits", x.solos(), 3);
         Calls.fraction("joy", x.soloJoy(0), x.soloJoy(1), 3, 1);
         Calls.bounds("soloJoy's part", 0, 1, v -> x.soloJoy(v));
+        Calls.plan(x, "2 0;");
+        Calls.due("of the plan alone", x.solos(), 4);
+        Calls.fraction("no joy", x.soloJoy(0), x.soloJoy(1), 0, 1);
+        Calls.plan(x, "1 0;2 0;");
+        Calls.due("of the plan alone", x.solos(), 6);
+        x = Calls.of("door 0 1 5;door 0 1 6;door 0 1 7;" + sure + "singer 1 1;solo 0 1;");
+        Calls.plan(x, "2 0 first;0 0 first;1 0 first;");
+        Calls.fraction("joy, asked ahead of where", x.soloJoy(0), x.soloJoy(1), 7, 1);
+        x.skip(0);
+        Calls.fraction("joy, asked ahead of where", x.soloJoy(0), x.soloJoy(1), 6, 1);
+        x.change(1, 2, 3);
+        Calls.plan(x, "1 0 first;");
+        Calls.due("no door of an earlier plan", x.solos(), 2);
+        Calls.fraction("no door of an earlier plan", x.soloJoy(0), x.soloJoy(1), 3, 1);
         x = Calls.of("door 0 1 5;".repeat(10) + "singer 1 0;solo 0 9;");
         Calls.plan(x, "9 1;8 1;7 1;6 1;5 1;4 1;3 1;2 1;1 1;0 1;");
         Calls.due("nine of ten", x.solos(), 511);
@@ -689,6 +777,14 @@ public final class BoundsOfAnswersTest {
         Calls.due("none", x.party(1), -1);
         Calls.due("none ahead", x.party(0), 0);
         Calls.bounds("party's what", 0, 1, v -> x.party(v));
+        x = Calls.of("door 40 1 0;door 30 2 0;door 20 4 0;door 10 8 0;door 0 16 0;");
+        // in the row 16, 8, 4, 2, 1: by turns the greatest that is left
+        Calls.due("of five, by X", x.party(1), 4);
+        Calls.due("ahead", x.party(0), 16 - 8 + 4 - 2 + 1);
+        x = Calls.of("door 40 5 0;door 40 9 0;door 30 1 0;door 0 7 0;door 30 6 0;door 10 0 0;");
+        // in the row 3 (7), 5 (0), 2 (1), 4 (6), 0 (5), 1 (9)
+        Calls.due("of six, by X and number", x.party(1), 1);
+        Calls.due("ahead", x.party(0), 9 - 7 + 5 - 6 + 1 - 0);
         StringBuilder ten = new StringBuilder();
         for (int i = 0; i < 10; i++) {
             ten.append("door ").append(99 - 11 * i).append(i % 2 == 0 ? " 240 0;" : " 0 0;");

@@ -492,6 +492,19 @@ public final class BoundsOfEveningsTest {
         rows("all is back", 0, 1, 2);
         Calls.due("none", x.undo(), -1);
         rows("none does nothing", 0, 1, 2);
+        Calls.plan(x, "0 5 first;1 0 last;2 3;");
+        x.skip(0);
+        x.skip(0);
+        x.skip(0);
+        for (int left = 2; left >= 0; left--) {
+            Calls.due("undo", x.undo(), left);
+        }
+        int[][] lines = {{0, 5, 1}, {1, 0, 2}, {2, 3, 0}};
+        for (int i = 0; i < 3; i++) {
+            for (int what = 0; what < 3; what++) {
+                Calls.due("line " + i + " " + what, x.line(i, what), lines[i][what]);
+            }
+        }
         Says.says(43, "(plan() forgets all changes.)");
         x.until(9);
         x.change(0, 1, 5);

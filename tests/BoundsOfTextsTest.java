@@ -192,6 +192,16 @@ public final class BoundsOfTextsTest {
         number("singer 0 ", 0, 3, ";");
         village(SINGER.repeat(7) + "singer 99 3;", 0, -1);
         Calls.due("eight", x.told(1), 8);
+        village("singer 1 3;singer 2 2;singer 3 1;singer 4 0;singer 5 3;singer 6 2;singer 7 1;singer 8 0;"
+                + "solo 0 9;solo 1 8;solo 6 3;solo 7 2;home 0 11;home 1 12;home 6 17;home 7 18;", 0, -1);
+        int[][] want = {{1, 3, 11, 9}, {2, 2, 12, 8}, {3, 1, -1, 0}, {4, 0, -1, 0}, {5, 3, -1, 0}, {6, 2, -1, 0},
+            {7, 1, 17, 3}, {8, 0, 18, 2}};
+        for (int i = 0; i < 8; i++) {
+            for (int what = 0; what < 4; what++) {
+                Calls.due("singer " + i + " " + what, x.singer(i, what), want[i][what]);
+            }
+        }
+        village("singer 1 1;".repeat(7) + "singer 99 3;", 0, -1);
         Calls.due("the eighth", x.singer(7, 0) * 10 + x.singer(7, 1), 993);
         village(SINGER.repeat(8) + " singer 100", -7, 89);
         Says.says("(SINGER I goes home in MINUTE T, 0 to 480)");
@@ -256,6 +266,9 @@ public final class BoundsOfTextsTest {
         Says.says("WORDS: small letters, as many as stand there");
         village("starts 9;", -9, 0);
         village("star 9;", -9, 0);
+        for (String none : new String[] {"startz 9;", "starta 9;", "zstart 9;", "astart 9;", "z 9;", "a 9;"}) {
+            village(none, -9, 0);
+        }
         village("start9;", 0, -1);
         Calls.due("start", x.told(4), 9);
         village("start{9;", -9, 5);
@@ -433,6 +446,11 @@ public final class BoundsOfTextsTest {
             law("1+" + none, -9, 2);
         }
         law("verses pence", -9, 7);
+        law("pencez", -9, 0);
+        law("pencea", -9, 0);
+        law("zpence", -9, 0);
+        law("pence{", -9, 5);
+        law("pence`", -9, 5);
     }
 
     private static void give() {
@@ -468,6 +486,8 @@ public final class BoundsOfTextsTest {
         Says.says("10 lines at most, no D twice");
         plan("0 0;1 0;2 0;3 0;4 0;5 0;6 0;7 0;8 0;9 5last;", 10, -1);
         Calls.due("the tenth", x.line(9, 1) * 10 + x.line(9, 2), 52);
+        // an 11th line is one too many, but its D is none such, or stands there twice: of one the least
+        Says.says("of one the least");
         plan("0 0;1 0;2 0;3 0;4 0;5 0;6 0;7 0;8 0;9 0;10 0;", -8, 40);
         plan("0 0;1 0;2 0;3 0;4 0;5 0;6 0;7 0;8 0;9 0;9 0;", -8, 40);
         plan("0 0;1 0;00 0;", -8, 8);
@@ -506,11 +526,13 @@ public final class BoundsOfTextsTest {
         Says.says("8 lines at most: in a year these DOORS (10 at most, no D twice) gave N pence together (0 to 9,999)");
         book("0=7;".repeat(7) + "=0;", 8, -1);
         Calls.due("all eight are right", x.right(1), 8);
+        Says.says("of a BOOK at its first D or =) too many");
         book("0=7;".repeat(8) + "0=7;", -7, 32);
         book("0=7;".repeat(8) + " =0;", -7, 33);
         book("0=7;".repeat(8) + " 3 3=0;", -7, 33);
         book("0=7;".repeat(8) + " 10=0;", -8, 33);
         book("0=7;".repeat(8) + " ;", -9, 33);
+        Says.says("(10 at most, no D twice) gave N pence together (0 to 9,999)");
         book("0 1 2 3 4 5 6 7 8 9=70;", 1, -1);
         Calls.due("all ten", x.right(1023), 1);
         Calls.due("nine of ten", x.right(1022), 0);

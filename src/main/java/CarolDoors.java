@@ -75,7 +75,7 @@ public final class CarolDoors {
         tape = new Tape();
         round = new Round();
         images = new Round[IMAGES];
-        for (int i = 0; i < IMAGES; i++) {
+        for (int i = 0; i < images.length; i++) {
             images[i] = new Round();
         }
         choir = new Choir();
@@ -490,20 +490,22 @@ public final class CarolDoors {
     }
 
     public int image() {
-        if (imageCount < 0 || imageCount >= images.length) {
+        Round free = imageAt(imageCount);
+        if (free == null) {
             return NONE;
         }
-        images[imageCount].copy(round);
+        free.copy(round);
         imageCount++;
         return imageCount;
     }
 
     public int restore() {
-        if (imageCount < 1 || imageCount > images.length) {
+        Round latest = imageAt(imageCount - 1);
+        if (latest == null) {
             return NONE;
         }
         imageCount--;
-        round.copy(images[imageCount]);
+        round.copy(latest);
         return imageCount;
     }
 
@@ -523,6 +525,10 @@ public final class CarolDoors {
             case 2: return round.changeCount;
             default: return NONE;
         }
+    }
+
+    private Round imageAt(int index) {
+        return index >= 0 && index < images.length ? images[index] : null;
     }
 
     // ---- refusals ----
