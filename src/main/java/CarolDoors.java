@@ -1726,9 +1726,10 @@ public final class CarolDoors {
 
         void seek(int w) {
             doorCount = round.doorCount < BEST_DOORS ? round.doorCount : BEST_DOORS;
-            hopes[doorCount] = 0;
-            for (int door = doorCount - 1; door >= 0; door--) {
-                hopes[door] = hopes[door + 1] + listWays(door, w);
+            long hope = 0;
+            for (int door = BEST_DOORS; door >= 0; door--) {
+                hope += door < doorCount ? listWays(door, w) : 0;
+                hopes[door] = hope;
             }
             foundValue = NONE;
             foundLength = 0;
@@ -1742,26 +1743,37 @@ public final class CarolDoors {
          */
         private long listWays(int door, int w) {
             long most = 0;
-            int size = 0;
+            if (!within(door, 0, BEST_DOORS - 1)) {
+                return most;
+            }
+            sizes[door] = 0;
             for (int way = 0; way < WAYS; way++) {
                 visit.reckon(door, way / 3, way % 3, 0);
                 long value = visit.pence + w * visit.joy;
                 if (value > most) {
                     most = value;
-                    int length = round.longestAt(door, way / 3, way % 3);
-                    int at = door * WAYS + size;
-                    if (size > 0 && lengths[at - 1] == length) {
-                        at--;
-                        size--;
-                    }
-                    values[at] = value;
-                    lengths[at] = length;
-                    codes[at] = way / 3 * 10 + way % 3;
-                    size++;
+                    addWay(door, way, value);
                 }
             }
-            sizes[door] = size;
             return most;
+        }
+
+        /** In the place of the way ahead, if that one is as long. */
+        private void addWay(int door, int way, long value) {
+            int size = door >= 0 && door < sizes.length ? sizes[door] : WAYS;
+            if (!within(size, 0, WAYS - 1)) {
+                return;
+            }
+            int length = round.longestAt(door, way / 3, way % 3);
+            int at = door * WAYS + size;
+            if (size > 0 && lengths[at - 1] == length) {
+                at--;
+                size--;
+            }
+            values[at] = value;
+            lengths[at] = length;
+            codes[at] = way / 3 * 10 + way % 3;
+            sizes[door] = size + 1;
         }
 
         /** From the last of all plans to the first, so that of alike ones the last that is found counts. */
@@ -1779,7 +1791,8 @@ public final class CarolDoors {
             int x = round.of(door, STREET);
             int nowLeast = least == NONE || x < least ? x : least;
             int nowGreatest = greatest == NONE || x > greatest ? x : greatest;
-            for (int i = door * WAYS + sizes[door] - 1; i >= door * WAYS; i--) {
+            int size = sizes[door] < WAYS ? sizes[door] : WAYS;
+            for (int i = door * WAYS + size - 1; i >= door * WAYS; i--) {
                 chosen[door] = codes[i];
                 tryDoor(door + 1, value + values[i], minutes + lengths[i], nowLeast, nowGreatest);
             }
